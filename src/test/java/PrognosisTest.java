@@ -109,20 +109,18 @@ public final class PrognosisTest {
         room.keep(0);
         due.same("27: of size 0", room.drift(0, 0), 1111);
         due.same("27: rows are alike, the first v", room.drift(0, 4), 100 * 11 + 7);
-        // the same chart two columns to the east of what was kept
         room = new ChartRoom();
         Rooms.postAt(room, 2, 3, 10000);
         Rooms.postAt(room, 6, 7, 10100);
         Rooms.postAt(room, 2, 7, 10050);
         room.keep(0);
-        ChartRoom later = room;
-        Rooms.wire(later, 0, 1, 0, Rooms.WIND + Rooms.pressOf(10000) + Rooms.HEAT);
-        later.view(1, 0);
-        later.keep(1);
-        due.same("27: one level is as good everywhere", later.drift(1, 2), 100 * 9 + 9);
-        later.view(0, 0);
-        due.same("27: nothing has moved", later.drift(0, 2), 1111);
-        due.same("27: of size 0 beside another", later.drift(1, 0), 1111);
+        Rooms.wire(room, 0, 1, 0, Rooms.WIND + Rooms.pressOf(10000) + Rooms.HEAT);
+        room.view(1, 0);
+        room.keep(1);
+        due.same("27: one level is as good everywhere", room.drift(1, 2), 100 * 9 + 9);
+        room.view(0, 0);
+        due.same("27: nothing has moved", room.drift(0, 2), 1111);
+        due.same("27: of size 0 beside another", room.drift(1, 0), 1111);
     }
 
     private static void driftByMeans() {
