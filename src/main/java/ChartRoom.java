@@ -98,7 +98,8 @@ public final class ChartRoom {
             if (!isWithin(cells[d], -1, 9)) return OUTSIDE;
         }
         if (desk.wires.size() >= MOST_WIRES) return FULL;
-        desk.wires.add(new Wire(p, hour, came, Arrays.copyOfRange(cells, i, i + WIRE_DIGITS)));
+        int height = desk.posts.get(p).height;
+        desk.wires.add(new Wire(p, height, hour, came, Arrays.copyOfRange(cells, i, i + WIRE_DIGITS)));
         lookAgain();
         return desk.wires.size() - 1;
     }
@@ -517,12 +518,6 @@ public final class ChartRoom {
         return dx * dx + dy * dy;
     }
 
-    private static int levelOf(int press, int height) {
-        int ppp = press / 100;
-        int pressure = ppp < 500 ? 10000 + ppp : 9000 + ppp;
-        return pressure + Math.floorDiv(12 * height, 100);
-    }
-
     private static final class Post {
         final int kind, x, y, height, gx, gy;
 
@@ -553,12 +548,15 @@ public final class ChartRoom {
 
     private static final class Wire {
         final int post, hour, came;
+        /** Of its POST. */
+        private final int height;
         final int[] digits;
         /** How many READINGS each GROUP has: asked for again and again, and never other. */
         final int[] counts;
 
-        Wire(int post, int hour, int came, int[] digits) {
+        Wire(int post, int height, int hour, int came, int[] digits) {
             this.post = post;
+            this.height = height;
             this.hour = hour;
             this.came = came;
             this.digits = digits;
@@ -592,14 +590,14 @@ public final class ChartRoom {
         }
 
         /** The least of the READINGS of PRESS whose LEVEL is nearest to a guess, or NONE. */
-        int nearestPress(int guess, int height) {
+        int nearestPress(int guess) {
             int nearest = NONE;
             int least = 0;
             int fillings = countFillings(PRESS);
             for (int filling = 0; filling < fillings; filling++) {
                 int found = filled(PRESS, filling);
                 if (found != NONE) {
-                    int off = Math.abs(levelOf(found, height) - guess);
+                    int off = Math.abs(levelOf(found) - guess);
                     if (nearest == NONE || off < least) {
                         nearest = found;
                         least = off;
@@ -607,6 +605,13 @@ public final class ChartRoom {
                 }
             }
             return nearest;
+        }
+
+        /** The LEVEL of a RIGHT PRESS. */
+        int levelOf(int press) {
+            int ppp = press / 100;
+            int pressure = ppp < 500 ? 10000 + ppp : 9000 + ppp;
+            return pressure + Math.floorDiv(12 * height, 100);
         }
 
         /** In how many ways the garbled ones of a GROUP's first four digits can be filled; the check follows from them. */
@@ -669,15 +674,14 @@ public final class ChartRoom {
             inView = 0;
             sure = 0;
             for (int p = 0; p < posts.size(); p++) {
-                Post post = posts.get(p);
-                places[p] = post.placeAt(hour);
+                places[p] = posts.get(p).placeAt(hour);
                 shown[p] = places[p] == NONE ? NONE : latestReadable(p);
                 if (shown[p] != NONE) {
                     inView |= 1 << p;
                     Wire wire = wires.get(shown[p]);
                     if (wire.counts[PRESS] == 1) {
                         sure |= 1 << p;
-                        sureLevels[p] = levelOf(wire.readingAt(PRESS, 0), post.height);
+                        sureLevels[p] = wire.levelOf(wire.readingAt(PRESS, 0));
                     }
                 }
             }
@@ -732,11 +736,11 @@ public final class ChartRoom {
         }
 
         int mendedPress(Wire wire) {
-            return wire.nearestPress(guessFor(wire), posts.get(wire.post).height);
+            return wire.nearestPress(guessFor(wire));
         }
 
         int mendedLevel(Wire wire) {
-            return levelOf(mendedPress(wire), posts.get(wire.post).height);
+            return wire.levelOf(wire.nearestPress(guessFor(wire)));
         }
     }
 

@@ -50,6 +50,11 @@ public final class FaceTest {
             due.holds("face: " + method + " is public or private", isPrivate || Modifier.isPublic(modifiers));
             due.holds("face: " + method + " has a name of its own", !isPrivate || !names.contains(method.getName()));
         }
+        for (Class<?> part : ChartRoom.class.getDeclaredClasses()) {
+            for (Method method : part.getDeclaredMethods()) {
+                due.holds("face: " + method + " of a part has a name of its own", !names.contains(method.getName()));
+            }
+        }
         for (Field field : ChartRoom.class.getDeclaredFields()) {
             boolean isConstant = Set.of("UNKNOWN", "OUTSIDE", "STATE", "FULL", "NONE", "LOST").contains(field.getName());
             due.holds("face: " + field + " is as told", Modifier.isPublic(field.getModifiers()) == isConstant);
