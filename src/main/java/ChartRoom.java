@@ -1130,7 +1130,6 @@ public final class ChartRoom {
             boolean isRegion = code == 'n' || code == 's' || code == 'w' || code == 'e' || code == 'm';
             if (!isRegion || clauses >= MOST_CLAUSES) return false;
             regions[clauses] = code;
-            numbers[clauses] = 0;
             digits = 0;
             due = SIGN;
             return true;

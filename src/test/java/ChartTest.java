@@ -16,6 +16,7 @@ public final class ChartTest {
         line();
         lineAtEdge();
         lineInPieces();
+        lineAroundOne();
         wrong();
         due.end();
     }
@@ -210,6 +211,29 @@ public final class ChartTest {
         }
         due.same("18: places below, counted", room.line(10050, 3), below);
         due.same("18: length, counted", room.line(10050, 0), length);
+    }
+
+    private static void lineAroundOne() {
+        // one PLACE alone is high: all others hang together around it, wherever it is
+        int[][] highs = {{5, 5}, {5, 0}, {0, 5}, {5, 11}, {11, 5}, {0, 0}, {11, 0}, {0, 11}, {11, 11}};
+        for (int[] high : highs) {
+            ChartRoom room = new ChartRoom();
+            room.steep(500);
+            int x = high[0];
+            int y = high[1];
+            Rooms.postAt(room, x, y, 10100);
+            int[][] neighbours = {{x - 1, y}, {x + 1, y}, {x, y - 1}, {x, y + 1}};
+            int length = 0;
+            for (int[] at : neighbours) {
+                length += Rooms.postAt(room, at[0], at[1], 9900) < 0 ? 0 : 1;
+            }
+            String one = "18: one high at " + x + ", " + y;
+            due.same(one + ", its piece", room.line(10000, 2), 1);
+            due.same(one + ", the others'", room.line(10000, 1), 1);
+            due.same(one + ", its piece again", room.line(10000, 2), 1);
+            due.same(one + ", its length", room.line(10000, 0), length);
+            due.same(one + ", below", room.line(10000, 3), 143);
+        }
     }
 
     private static void wrong() {

@@ -241,7 +241,8 @@ public final class PrognosisTest {
 
     private static void verifiedRegions() {
         // in each room one PLACE alone is low: next to it stand others that keep its VALUE to itself
-        int[][] lows = {{5, 3}, {5, 4}, {5, 8}, {5, 7}, {3, 5}, {4, 5}, {8, 5}, {7, 5}, {3, 3}, {7, 7}, {8, 8}};
+        int[][] lows = {{5, 3}, {5, 4}, {5, 8}, {5, 7}, {3, 5}, {4, 5}, {8, 5}, {7, 5}, {3, 3}, {7, 7}, {8, 8},
+            {0, 0}, {11, 0}, {0, 11}, {11, 11}};
         String text = "n>9999,s>9999,w>9999,e>9999,m>9999";
         for (int[] low : lows) {
             ChartRoom room = new ChartRoom();

@@ -71,6 +71,11 @@ public final class WiresTest {
         due.same("5: index at the top", room.wire(0, 0, 0, 0, 0, Integer.MAX_VALUE), -13);
         due.same("5: the last fifteen", room.wire(0, 0, 0, 0, 0, 1), 0);
         due.same("39: none", room.fault(), 0);
+        room.put(0, 15, 77);
+        due.same("5: a cell behind the fifteen is no matter", room.wire(0, 0, 0, 0, 0, 0), 1);
+        room.put(0, 0, 77);
+        room.put(0, 15, 0);
+        due.same("5: nor is one ahead of them", room.wire(0, 0, 0, 0, 0, 1), 2);
         room.sheet(0, 0, 14);
         room.put(0, 0, 77);
         due.same("5: index ahead of a cell outside", room.wire(0, 0, 0, 0, 0, 0), -13);
