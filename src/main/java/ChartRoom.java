@@ -830,8 +830,8 @@ public final class ChartRoom {
             int length = 0;
             for (int place = 0; place < PLACES; place++) {
                 boolean isBelow = values[place] < v;
-                if (place % SIDE < SIDE - 1 && values[place + 1] < v != isBelow) length++;
-                if (place / SIDE < SIDE - 1 && values[place + SIDE] < v != isBelow) length++;
+                if (place % SIDE < SIDE - 1 && (values[place + 1] < v) != isBelow) length++;
+                if (place / SIDE < SIDE - 1 && (values[place + SIDE] < v) != isBelow) length++;
             }
             return length;
         }
@@ -839,7 +839,7 @@ public final class ChartRoom {
         /** How many PIECES those BELOW have, or those that are not. */
         int countPieces(int v, boolean ofBelow) {
             for (int place = 0; place < PLACES; place++) {
-                isReached[place] = values[place] < v != ofBelow;
+                isReached[place] = (values[place] < v) != ofBelow;
             }
             int pieces = 0;
             for (int place = 0; place < PLACES; place++) {
@@ -874,7 +874,7 @@ public final class ChartRoom {
         int countWrong(Desk desk, int v) {
             int count = 0;
             for (int p = 0; p < desk.posts.size(); p++) {
-                if (isIn(desk.inView, p) && levels[p] < v != values[desk.places[p]] < v) count++;
+                if (isIn(desk.inView, p) && (levels[p] < v) != (values[desk.places[p]] < v)) count++;
             }
             return count;
         }
