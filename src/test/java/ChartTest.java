@@ -202,11 +202,13 @@ public final class ChartTest {
         due.same("18: one of the others", room.line(10050, 2), 1);
         int below = 0;
         int length = 0;
+        int[][] values = new int[12][12];
         for (int x = 0; x < 12; x++) {
             for (int y = 0; y < 12; y++) {
-                below += room.value(x, y) < 10050 ? 1 : 0;
-                length += x < 11 && room.value(x, y) != room.value(x + 1, y) ? 1 : 0;
-                length += y < 11 && room.value(x, y) != room.value(x, y + 1) ? 1 : 0;
+                values[x][y] = room.value(x, y);
+                below += values[x][y] < 10050 ? 1 : 0;
+                length += x > 0 && values[x][y] != values[x - 1][y] ? 1 : 0;
+                length += y > 0 && values[x][y] != values[x][y - 1] ? 1 : 0;
             }
         }
         due.same("18: places below, counted", room.line(10050, 3), below);

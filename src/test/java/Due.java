@@ -20,9 +20,17 @@ final class Due {
         same(what, isSo ? 1 : 0, 1);
     }
 
+    /** Whether something was asked, and all answers were due. */
+    boolean isRight() {
+        if (asked == 0) {
+            System.out.println(test + ": nothing was asked");
+        }
+        return asked > 0 && wrong == 0;
+    }
+
     void end() {
         System.out.println(test + ": " + asked + " asked, " + wrong + " wrong");
-        if (wrong > 0 || asked == 0) {
+        if (!isRight()) {
             System.exit(1);
         }
     }

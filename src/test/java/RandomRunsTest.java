@@ -3,7 +3,7 @@ import java.util.function.ToLongFunction;
 
 /** Runs of calls, put to the program and to the Oracle; each run is told by its seed. */
 public final class RandomRunsTest {
-    private static final int RUNS = 400, CALLS = 512;
+    private static final int RUNS = 700, CALLS = 512, LONGEST_STEP = 64;
     private static final int[] ODD = {-1, 12, 100, 101, -2, 61, 20001, Integer.MAX_VALUE, Integer.MIN_VALUE, 1431655766, -12};
     private static final String SIGNS = "nswem<>,0123456789 x";
     private static final Due due = new Due("RandomRunsTest");
@@ -34,7 +34,7 @@ public final class RandomRunsTest {
         for (int p = 0; p < posts; p++) {
             bringPost();
         }
-        while (calls < CALLS - 40) {
+        while (calls < CALLS - LONGEST_STEP) {
             step(random.nextInt(100));
         }
     }
@@ -81,9 +81,7 @@ public final class RandomRunsTest {
         ask("sheet", r -> r.sheet(k, lane, cells.length), o -> o.sheet(k, lane, cells.length));
         for (int c = 0; c < cells.length; c++) {
             int i = c;
-            // the cells of texts and wires are told to both, but count as no calls of the run
-            room.put(k, i, cells[i]);
-            oracle.put(k, i, cells[i]);
+            ask("put", r -> r.put(k, i, cells[i]), o -> o.put(k, i, cells[i]));
         }
     }
 

@@ -2,6 +2,8 @@
 final class Rooms {
     /** A WIND and a HEAT that are RIGHT, for wires of which only the PRESS matters. */
     static final String WIND = "09124", HEAT = "12342";
+    /** A wire with all three groups RIGHT; its LEVEL is 10025 at height 0. */
+    static final String RIGHT = "091240253012342";
 
     private Rooms() {
     }
