@@ -367,6 +367,34 @@ public final class Edges3ChartTest {
         }
     }
 
+    static void promise18_words3_twoPiecesOfOnePlaceEach(Due due) {
+        ChartRoom room = new ChartRoom();
+        room.steep(500);
+        int[][] places = {{3, 3}, {8, 8}};
+        for (int[] at : places) {
+            Rooms.postAt(room, at[0], at[1], 10100);
+            Rooms.postAt(room, at[0] - 1, at[1], 9900);
+            Rooms.postAt(room, at[0] + 1, at[1], 9900);
+            Rooms.postAt(room, at[0], at[1] - 1, 9900);
+            Rooms.postAt(room, at[0], at[1] + 1, 9900);
+        }
+        due.same("all but two", room.line(10000, 3), 142);
+        due.same("one piece around both", room.line(10000, 1), 1);
+        due.same("two pieces", room.line(10000, 2), 2);
+        due.same("eight pairs", room.line(10000, 0), 8);
+        due.same("still one piece", room.line(10000, 1), 1);
+        room = new ChartRoom();
+        room.steep(500);
+        Rooms.postAt(room, 2, 0, 10100);
+        Rooms.postAt(room, 1, 1, 10100);
+        int[][] lows = {{0, 0}, {1, 0}, {3, 0}, {0, 1}, {2, 1}, {1, 2}};
+        for (int[] low : lows) {
+            Rooms.postAt(room, low[0], low[1], 9900);
+        }
+        due.same("aslant: one piece around both", room.line(10000, 1), 1);
+        due.same("aslant: two pieces", room.line(10000, 2), 2);
+    }
+
     /** "how many POSTS IN VIEW (DOUBTED ones, too) have a LEVEL on the other side than the VALUE of their PLACE" */
     static void promise18_words3_wrongAtTheEdgeOfBothSides(Due due) {
         ChartRoom room = apart(0, 10000, 10001);

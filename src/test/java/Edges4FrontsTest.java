@@ -505,6 +505,19 @@ public final class Edges4FrontsTest {
         due.same("the last to the first", room.front(0, 4, 4), 0);
     }
 
+    static void promise22_words4_allFiveOfBothDaysAlone(Due due) {
+        ChartRoom room = room();
+        for (int f = 0; f < 5; f++) {
+            free(room, 0, 0, 0, 11);
+            free(room, 1, 1, 0, 11);
+        }
+        due.same("ten are alone", room.joining(), 150);
+        for (int f = 0; f < 5; f++) {
+            due.same("yesterday's " + f + " died", room.front(0, f, 4), NONE);
+            due.same("today's " + f + " was born", room.front(1, f, 4), NONE);
+        }
+    }
+
     // ---- 23: "TODAY's FRONTS are YESTERDAY's, TODAY has none: how many there are of YESTERDAY."
 
     static void promise23_withoutFronts(Due due) {
